@@ -564,7 +564,7 @@ public final class SealedLips {
 
     // ---- a byte for each thing
 
-    private static long laneOf(int thing) {
+    private static long byteOf(int thing) {
         return 1L << 8 * thing;
     }
 
@@ -581,10 +581,10 @@ public final class SealedLips {
         return less & held * LOW;
     }
 
-    private static int asSet(long lanes) {
+    private static int asSet(long bytes) {
         int set = 0;
         for (int t = 0; t < THINGS; t++) {
-            set |= (int) (lanes >>> 8 * t & 1) << t;
+            set |= (int) (bytes >>> 8 * t & 1) << t;
         }
         return set;
     }
@@ -674,7 +674,7 @@ public final class SealedLips {
         }
 
         private boolean isKnownBy(int person, int thing) {
-            return (knows[person] & laneOf(thing)) != 0;
+            return (knows[person] & byteOf(thing)) != 0;
         }
 
         private int strengthOf(int person, int thing) {
@@ -683,16 +683,16 @@ public final class SealedLips {
 
         /** A person knows a thing, whether it did or not, by a seal of this strength. */
         private void learn(int person, int thing, int strength) {
-            long lane = laneOf(thing);
-            knows[person] |= lane;
-            seals[person] = seals[person] & ~(lane * LOW) | lane * strength;
+            long one = byteOf(thing);
+            knows[person] |= one;
+            seals[person] = seals[person] & ~(one * LOW) | one * strength;
         }
 
         private void forgetThing(int thing) {
-            long lane = laneOf(thing);
+            long one = byteOf(thing);
             for (int p = 0; p < persons; p++) {
-                knows[p] &= ~lane;
-                seals[p] &= ~(lane * LOW);
+                knows[p] &= ~one;
+                seals[p] &= ~(one * LOW);
             }
         }
 
