@@ -75,6 +75,16 @@ public final class DoneTest {
             x.days(1, 0);
             due("eater behind " + (d + 1), x.strength(0, 0), strengths[d]);
         }
+        x = Check.at("9/30;e");
+        x.days(1, 0);
+        x.trust(0, 0);
+        x.days(1, 8);
+        due("eater of heat 8, not doubled", x.strength(0, 0), 4);
+        x = Check.at("9/30;e");
+        x.days(3, 0);
+        x.trust(0, 0);
+        x.days(1, 4);
+        due("eater of heat 4, doubled", x.strength(0, 0), 3);
     }
 
     private static void telling() {
@@ -146,7 +156,8 @@ public final class DoneTest {
         due("full", x.drift(1), SealedLips.FULL);
         due("foretold on", x.leaks(60, 9), 0);
         due("undone", x.undo(), 7);
-        due("once more", x.days(1, 0), 0);
+        due("once more", x.drift(1), 0);
+        due("day", x.count(1), 9999);
     }
 
     private static void drift() {
@@ -203,6 +214,16 @@ public final class DoneTest {
         }
         due("day 4", x.count(1), 4);
         due("older are lost", x.undo(), SealedLips.NONE);
+        // the last of six, too
+        SealedLips y = Check.at("5/30;p,p,p,p,p0,p");
+        y.trust(5, 1);
+        y.days(2, 9);
+        due("known", y.of(5, 2), 3);
+        due("undo", y.undo(), 2);
+        due("strength", y.strength(5, 1), 1);
+        due("undo", y.undo(), 1);
+        due("strength", y.strength(5, 1), 5);
+        due("known", y.of(5, 1), 2);
         // what is refused is no step
         x.trust(0, 0);
         x.seal(0, 7);

@@ -101,6 +101,7 @@ public final class ForetoldTest {
         due("n 0", x.cool(0), BAD);
         due("n 31", x.cool(31), BAD);
         due("nobody", new SealedLips().cool(1), 9);
+        due("nobody to hear", Check.at("1/30;e0").cool(30), 9);
     }
 
     private static void thick() {
@@ -111,6 +112,7 @@ public final class ForetoldTest {
         }
         due("renewed so", Check.at("9/2;p0,p").thick(30, 4), 5);
         due("30 days", Check.at("9/30;p0,p").thick(30, 1), 1);
+        due("nobody to hear", Check.at("9/30;e0,f").thick(30, 9), 1);
         x = Check.at("1/30;p0,f,p,f");
         x.days(1, 9);
         x.seats(1, 2);
@@ -140,6 +142,12 @@ public final class ForetoldTest {
         x = Check.at("4/30;f0,f0,f,p0,p,f");
         x.days(1, 4);
         due("one that leaks", x.renew(0, 1, 4, 3, 1), 8);
+        x = Check.at("4/30;p,p0,p0,p0,p0,p0");
+        x.days(1, 4);
+        due("both beside it", x.renew(0, 1, 4, 5, 1), 0b100010);
+        x = Check.at("4/30;p,f,p0,f0,f0,p0");
+        x.days(1, 4);
+        due("the last one alone", x.renew(0, 1, 4, 4, 1), 32);
         due("thing 8", x.renew(8, 0, 0, 0, 0), BAD);
         due("thing -1", x.renew(-1, 0, 0, 0, 0), BAD);
         due("n -1", x.renew(0, -1, 0, 0, 0), BAD);
@@ -204,6 +212,8 @@ public final class ForetoldTest {
         due("alone", x.from(0, 0, 0), 0);
         due("alone", x.from(0, 1, 9), 7);
         due("another thing", x.from(1, 1, 9), 7);
+        due("who knew it had no seal", Check.at("5/30;p0,p0,p0,p0,p0").from(0, 2, 0), 31);
+        due("one alone", Check.at("5/30;d0").from(0, 0, 0), 1);
         x = Check.at("5/30;p,d,p");
         due("dumb", x.from(0, 1, 0), 5);
         due("deaf", Check.at("5/30;p,f,p").from(0, 1, 9), 0);
@@ -254,6 +264,14 @@ public final class ForetoldTest {
             x.days(9, 9);
             x.person(2);
         }
+        x = Check.at("9/30;p,p,p,p,p,p0");
+        x.days(8, 2);
+        x.image();
+        x.days(1, 9);
+        x.restore();
+        due("undo", x.undo(), 7);
+        due("strength", x.strength(5, 0), 2);
+        due("day", x.count(1), 7);
         x = new SealedLips();
         x.image();
         x.person(0);

@@ -194,6 +194,13 @@ public final class PersonsTest {
         due("bigger", Check.court(x, "1/2;f,f,f"), 3);
         due("places anew", x.of(0, 4), 1);
         due("forgotten", x.count(4), 0);
+        // nothing of what was foretold comes into it
+        x.trust(0, 0);
+        x.leaks(60, 9);
+        due("another", Check.court(x, "3/4;l,l0"), 2);
+        due("day", x.count(1), 0);
+        due("rank", x.of(0, 3), 0);
+        due("known", x.count(4), 1);
         // a fault changes nothing but the tape
         x = Check.at("4/9;p0,p");
         x.days(3, 1);
