@@ -267,11 +267,14 @@ public final class ForetoldTest {
         x = Check.at("9/30;p,p,p,p,p,p0");
         x.days(8, 2);
         x.image();
-        x.days(1, 9);
+        x.days(8, 9);
         x.restore();
-        due("undo", x.undo(), 7);
-        due("strength", x.strength(5, 0), 2);
-        due("day", x.count(1), 7);
+        for (int left = 7; left >= 0; left--) {
+            due("undo", x.undo(), left);
+            due("strength", x.strength(5, 0), 9 - left);
+            due("day", x.count(1), left);
+            due("known", x.known(0), 32);
+        }
         x = new SealedLips();
         x.image();
         x.person(0);
