@@ -23,6 +23,7 @@ public final class EdgesDayTest {
         whoTells();
         ranks();
         outOfNobody();
+        howManyAreOpen();
         Check.allNamed(1, 3);
         Check.finish();
     }
@@ -334,6 +335,31 @@ public final class EdgesDayTest {
         x = Check.at("1/30;l0");
         x.days(1, 0);
         due("trust", x.trust(0, 7), 1);
+    }
+
+    private static void howManyAreOpen() {
+        Check.edge(10, "how many of these are OPEN: none of nobody");
+        due("open", new SealedLips().count(5), 0);
+        SealedLips x = Check.at("1/30;p01234567,p,p,p,p,p");
+        Check.edge(10, "how many times a THING is KNOWN, how many of these are OPEN: none, all");
+        due("known", x.count(4), 8);
+        due("open", x.count(5), 0);
+        int[] times = {24, 40, 48, 48};
+        for (int all : times) {
+            x.days(1, 2);
+            due("known", x.count(4), all);
+            due("open", x.count(5), all);
+        }
+        Check.edge(10, "one of them is not OPEN");
+        x.seal(0, 0);
+        due("open", x.count(5), 47);
+        x.seal(5, 7);
+        due("open", x.count(5), 46);
+        due("known", x.count(4), 48);
+        Check.edge(10, "OPEN: none, behind a renewal");
+        x.days(26, 0);
+        due("open", x.count(5), 0);
+        due("known", x.count(4), 48);
     }
 
     private static void outOfNobody() {

@@ -22,6 +22,7 @@ public final class EdgesDoneTest {
         manyDays();
         imageOfNobody();
         imageOfEightSteps();
+        imageOfWhatWasKnown();
         imageAnew();
         imageOverCourts();
         imageHoldsNoSheet();
@@ -362,6 +363,30 @@ public final class EdgesDoneTest {
         x.restore();
         due("may be UNDONE", x.count(8), 0);
         due("undo", x.undo(), SealedLips.NONE);
+    }
+
+    /** All six come to know a thing each, by draws of their own, ahead of the image; other steps since. */
+    private static void imageOfWhatWasKnown() {
+        Check.edge(28, "what all KNOW, STRENGTHS, THE DRAW, UNDONE as then");
+        SealedLips x = Check.at("5/7;p,p,p,p,p,p");
+        for (int step = 0; step < 8; step++) {
+            x.seed(100 + step);
+            x.rule(0, step + 1);
+            x.trust(step % 6, step);
+        }
+        x.image();
+        for (int step = 0; step < 8; step++) {
+            x.seed(200 + step);
+            x.trust(step % 6, (step + 1) % 8);
+        }
+        x.restore();
+        for (int step = 7; step >= 0; step--) {
+            due("strength", x.strength(step % 6, step), step + 1);
+            due("undo", x.undo(), step);
+            due("known", x.known(step), 0);
+            due("times known", x.count(4), step);
+            due("draw", x.seed(0), 100 + step);
+        }
     }
 
     private static void imageAnew() {

@@ -25,6 +25,7 @@ public final class EdgesForetoldTest {
         tableOfFew();
         tableOfLikeOnes();
         tableOfAllOrders();
+        tableOfMostAndLeast();
         tableOfTwentyDays();
         rivals();
         fromNow();
@@ -261,6 +262,10 @@ public final class EdgesForetoldTest {
         x = breaking("1/30;p0,p,p0,f,p0,p");
         due("how many", x.renew(0, 1, 2, 3, 0), 3);
         due("which", x.renew(0, 1, 2, 3, 1), 21);
+        x = breaking("1/30;p0,p0,p,p0,p0,p");
+        due("how many", x.renew(0, 1, 2, 4, 0), 4);
+        due("which", x.renew(0, 1, 2, 4, 1), 27);
+        due("two of four", x.renew(0, 1, 2, 5, 1), 10);
         Check.edge(23, "WAX holds for so many DAYS, no more");
         x = breaking("1/30;p0,p");
         due("8 days", x.renew(0, 8, 2, 1, 0), 1);
@@ -347,6 +352,23 @@ public final class EdgesForetoldTest {
         due("how much", x.table(1, 2, -1), 12);
         for (int k = 0; k < 6; k++) {
             due("place " + k, x.table(1, 2, k), order[k]);
+        }
+    }
+
+    private static void tableOfMostAndLeast() {
+        Check.edge(24, "how much: all, by any order");
+        SealedLips x = Check.at("1/30;p01234567,p,p,p,p,p");
+        int[] most = {16, 32, 40, 40};
+        for (int n = 1; n <= most.length; n++) {
+            due("behind " + n, x.table(n, 2, -1), most[n - 1]);
+            due("the second", x.table(n, 2, 1), 1);
+        }
+        Check.edge(24, "least LEAKS: nothing, behind orders by which 1 LEAKS");
+        x = Check.at("1/30;p0,p,f,f");
+        due("how much", x.table(20, 9, -1), 0);
+        int[] order = {0, 2, 1, 3};
+        for (int k = 0; k < 4; k++) {
+            due("place " + k, x.table(20, 9, k), order[k]);
         }
     }
 

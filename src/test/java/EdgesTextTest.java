@@ -21,7 +21,10 @@ public final class EdgesTextTest {
         howManyPersons();
         letters();
         fullTape();
+        whatWasOnTheTape();
         whatIsReplaced();
+        whatWasForetold();
+        whoComesLater();
         whatAFaultLeaves();
         Check.allNamed(8, 9);
         Check.finish();
@@ -232,6 +235,52 @@ public final class EdgesTextTest {
         Check.edge(9, "an empty TAPE");
         due("court", x.court(), -20);
         due("court", x.court(), -20);
+    }
+
+    private static void whatWasOnTheTape() {
+        Check.edge(9, "THE TAPE, which is empty then: nothing that stood there counts");
+        String text = "5/30;p07,f";
+        int[] answers = {-20, -21, -22, -23, -24, -25, 1, 1, 1, -29, 2};
+        SealedLips x = new SealedLips();
+        for (int length = answers.length - 1; length >= 0; length--) {
+            due("court " + text, Check.court(x, text), 2);
+            due("court " + text.substring(0, length), Check.court(x, text.substring(0, length)), answers[length]);
+        }
+        due("court " + text, Check.court(x, text), 2);
+        due("court 5/3;p", Check.court(x, "5/3;p"), 1);
+        due("week", x.count(3), 3);
+    }
+
+    private static void whatWasForetold() {
+        Check.edge(9, "in place of all PERSONS: nothing that was FORETOLD counts");
+        SealedLips x = Check.at("9/30;p01234567,l01234567,d01234567,e01234567,f01234567,p01234567");
+        x.days(5, 9);
+        x.leaks(60, 9);
+        x.thick(1, 0);
+        due("court", Check.court(x, "5/7;p,p,p,p,p,p"), 6);
+        due("day", x.count(1), 0);
+        due("to the renewal", x.count(7), 7);
+        due("times known", x.count(4), 0);
+        due("leaks", x.leaks(60, 9), 0);
+        for (int p = 0; p < 6; p++) {
+            due("rank", x.of(p, 3), 0);
+            due("open", x.of(p, 2), 0);
+            due("kind", x.of(p, 0), 0);
+            due("behind", x.of(p, 4), (p + 1) % 6);
+        }
+    }
+
+    private static void whoComesLater() {
+        Check.edge(2, "not at first: in place of one who KNEW all");
+        SealedLips x = Check.at("9/30;p01234567,l01234567,d01234567,e01234567,f01234567,p01234567");
+        due("court", Check.court(x, "5/7;p"), 1);
+        for (int p = 1; p < 6; p++) {
+            due("person", x.person(0), p);
+            due("knows", x.of(p, 1), 0);
+            due("open", x.of(p, 2), 0);
+            due("rank", x.of(p, 3), 0);
+        }
+        due("trust", x.trust(5, 0), 1);
     }
 
     private static void whatIsReplaced() {
