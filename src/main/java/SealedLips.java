@@ -786,7 +786,11 @@ public final class SealedLips {
 
         /** n days of heat h: how much leaks. */
         private int liveDays(int n, int h) {
-            return liveUntilLeaks(n, h, MOST_PERSONS * THINGS + 1);
+            int leaked = 0;
+            for (int d = 0; d < n; d++) {
+                leaked += live(h);
+            }
+            return leaked;
         }
 
         /** As liveDays, but it ends early once so much has leaked: nothing that has leaked comes back. */
