@@ -135,6 +135,14 @@ public final class EdgesForetoldTest {
         due("40", slow().out(0, 0), 40);
     }
 
+    /** 9 less 1 a day: 8 days to the week's end, then 9 of the next one, on the last of which it breaks. */
+    private static SealedLips latest() {
+        SealedLips x = Check.at("9/9;p,p");
+        x.days(1, 0);
+        x.trust(0, 0);
+        return x;
+    }
+
     private static void cool() {
         Check.edge(21, "the greatest HEAT: 9");
         due("nobody", new SealedLips().cool(30), 9);
@@ -153,6 +161,10 @@ public final class EdgesForetoldTest {
             due("n " + n, Check.at("9/30;p0,p").cool(n), ofNine[n - 1]);
         }
         due("n 30", Check.at("9/30;p0,p").cool(30), 1);
+        Check.edge(21, "nothing LEAKS in n DAYS: the latest that there can be");
+        due("16", latest().cool(16), 3);
+        due("17", latest().cool(17), 1);
+        due("30", latest().cool(30), 1);
         Check.edge(21, "renewed by the week");
         due("9 for 30", Check.at("9/2;p0,p").cool(30), 9);
         due("7 for 30", Check.at("8/2;p0,p").cool(30), 7);
@@ -202,6 +214,10 @@ public final class EdgesForetoldTest {
         due("2 days", Check.at("9/2;p0,p").thick(30, 8), 9);
         due("2 days", Check.at("1/2;p0,p").thick(30, 2), 3);
         due("3 days", Check.at("1/3;p0,p").thick(30, 4), 7);
+        Check.edge(22, "nothing LEAKS: the latest that there can be");
+        due("16", latest().thick(16, 2), 9);
+        due("17", latest().thick(17, 2), NONE);
+        due("30", latest().thick(30, 2), NONE);
         Check.edge(22, "all SEALS being of that now: weaker than they are");
         SealedLips x = Check.at("9/30;p0,p");
         due("nothing leaks", x.leaks(1, 8), 0);
