@@ -7,11 +7,15 @@ public final class RoomTest {
         long id = Thread.currentThread().getId();
         SealedLips x = new SealedLips();
         run(x);
+        SealedLips[] others = new SealedLips[10];
+        for (int i = 0; i < others.length; i++) {
+            others[i] = new SealedLips();
+        }
         long ahead = bean.getThreadAllocatedBytes(id);
         long nothing = bean.getThreadAllocatedBytes(id) - ahead;
         long start = bean.getThreadAllocatedBytes(id);
-        for (int i = 0; i < 10; i++) {
-            run(x);
+        for (SealedLips other : others) {
+            run(other);
         }
         long used = bean.getThreadAllocatedBytes(id) - start - nothing;
         Check.due("bytes made by calls, beyond some of the machine's own: " + used, used < 20_000 ? 1 : 0, 1);

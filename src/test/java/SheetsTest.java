@@ -79,8 +79,8 @@ public final class SheetsTest {
     }
 
     private static void film() {
-        SealedLips x = Check.at("9/30;p0,p,p,p,p,p");
         for (int lane = 0; lane < 4; lane++) {
+            SealedLips x = Check.at("9/30;p0,p,p,p,p,p");
             x.sheet(lane, lane, 24);
             due("film", x.film(0, 24, 6, lane, lane, 0), 24);
             due("as told", x.told(0, lane, lane, 0, 6), sameFor(x, 6, 6));
