@@ -18,10 +18,14 @@ public final class FaceTest {
         "item(int,int,int,long)", "copy(int,int,int,int,int)",
     };
     private static final String[] CONSTANTS = {"BAD", "NOT", "FULL", "NONE", "NULL", "CAST", "INDEX", "SIZE"};
+    private static final int[] VALUES = {-1, -2, -3, -4, -11, -12, -13, -14};
 
-    public static void main(String[] args) {
+    public static void main(String[] args) throws ReflectiveOperationException {
         Class<?> face = SealedLips.class;
-        Check.due("final", Modifier.isFinal(face.getModifiers()) ? 1 : 0, 1);
+        Check.due("public and final", face.getModifiers(), Modifier.PUBLIC | Modifier.FINAL);
+        Check.due("no package", face.getPackageName().length(), 0);
+        Check.due("below no class of its own", face.getSuperclass() == Object.class ? face.getInterfaces().length : -1, 0);
+        values(face);
         Set<String> methods = new TreeSet<>();
         Set<String> names = new HashSet<>();
         for (Method m : face.getDeclaredMethods()) {
@@ -29,7 +33,8 @@ public final class FaceTest {
                 methods.add(written(m));
                 names.add(m.getName());
                 Check.due(m + " answers an int", m.getReturnType() == int.class ? 1 : 0, 1);
-                Check.due(m + " is of an object", Modifier.isStatic(m.getModifiers()) ? 1 : 0, 0);
+                Check.due(m + " is public alone", m.getModifiers(), Modifier.PUBLIC);
+                Check.due(m + " declares no exception", m.getExceptionTypes().length, 0);
             }
         }
         same("methods", methods, new TreeSet<>(Arrays.asList(METHODS)));
@@ -50,6 +55,15 @@ public final class FaceTest {
             others(inside, names);
         }
         Check.finish();
+    }
+
+    private static void values(Class<?> face) throws ReflectiveOperationException {
+        for (int i = 0; i < CONSTANTS.length; i++) {
+            Field constant = face.getField(CONSTANTS[i]);
+            Check.due(constant + " is a constant", constant.getModifiers(), Modifier.PUBLIC | Modifier.STATIC | Modifier.FINAL);
+            Check.due(constant + " is an int", constant.getType() == int.class ? 1 : 0, 1);
+            Check.due(constant.getName(), constant.getInt(null), VALUES[i]);
+        }
     }
 
     /** All else is private, and bears no name of the face. */

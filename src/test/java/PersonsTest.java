@@ -162,7 +162,7 @@ public final class PersonsTest {
         due("empty again", x.type(32), 1);
         Check.type(x, "                                                                     ");
         due("70 blanks", x.court(), -90);
-        // the longest court has 70 letters and no more: 5/30; and 6 persons of 8 things are 5 + 6 * 9 + 5
+        // without blanks no court is longer: 5/30; and 6 persons of 8 things with , between are 5 + 6 * 9 + 5 = 64 letters
         due("full court", Check.court(x, "5/30;p01234567,l01234567,d01234567,e01234567,f01234567,p01234567"), 6);
         due("all out", x.count(6), 255);
     }
