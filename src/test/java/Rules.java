@@ -73,7 +73,7 @@ final class Rules extends TreePathScanner<Void, Void> {
         Tree.Kind.POSTFIX_INCREMENT, Tree.Kind.POSTFIX_DECREMENT, Tree.Kind.PREFIX_INCREMENT, Tree.Kind.PREFIX_DECREMENT);
     private static final Set<String> TYPES = Set.of("int", "long", "short", "byte", "char", "boolean", "void", "java.lang.String");
     private static final Set<String> LIBRARY = Set.of(
-        "java.lang.String.indexOf(char)", "java.lang.String.charAt(int)", "java.lang.String.length()",
+        "java.lang.String.indexOf(char)",
         "java.lang.Integer.bitCount(int)", "java.lang.Long.bitCount(long)", "java.lang.Math.max(int,int)", "java.lang.Math.min(int,int)",
         "java.lang.System.arraycopy(numbers)", "java.util.Arrays.fill(numbers)");
 
