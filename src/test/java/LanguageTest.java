@@ -58,11 +58,14 @@ public final class LanguageTest {
         finds(4, around("private static final class A { } private A[] b = new A[2]; public void a() { System.arraycopy(b, 0, b, 1, 1); }"));
         finds(4, around("public int a(String b) { return b.indexOf(\"c\"); }"));
         finds(4, around("private static final String A = \"\\u00e9\";"));
+        finds(4, around("@Deprecated public void a() { }"));
         finds(5, around("private static int a;"));
         finds(5, around("static { }"));
         finds(5, around("private static final int[] A = new int[2];"));
         finds(6, around("public int a() { throw new IllegalStateException(); }"));
         finds(6, around("public void a() { try { a(); } catch (RuntimeException e) { } }"));
+        finds(6, around("public void a() { synchronized (this) { } }"));
+        finds(6, around("public void a() { assert 1 > 0; }"));
         finds(6, around("public String toString() { return \"\"; }"));
         finds(6, around("public boolean a(String b, String c) { return b == c; }"));
         finds(7, around("public int a(int b) { return 1 / b; }"));

@@ -1,7 +1,5 @@
-import com.sun.source.tree.AssertTree;
 import com.sun.source.tree.BinaryTree;
 import com.sun.source.tree.BlockTree;
-import com.sun.source.tree.CatchTree;
 import com.sun.source.tree.ClassTree;
 import com.sun.source.tree.CompilationUnitTree;
 import com.sun.source.tree.CompoundAssignmentTree;
@@ -11,19 +9,13 @@ import com.sun.source.tree.ExpressionTree;
 import com.sun.source.tree.ForLoopTree;
 import com.sun.source.tree.IdentifierTree;
 import com.sun.source.tree.ImportTree;
-import com.sun.source.tree.LambdaExpressionTree;
 import com.sun.source.tree.LiteralTree;
-import com.sun.source.tree.MemberReferenceTree;
 import com.sun.source.tree.MemberSelectTree;
 import com.sun.source.tree.MethodInvocationTree;
 import com.sun.source.tree.MethodTree;
 import com.sun.source.tree.NewArrayTree;
 import com.sun.source.tree.NewClassTree;
-import com.sun.source.tree.PackageTree;
-import com.sun.source.tree.SynchronizedTree;
-import com.sun.source.tree.ThrowTree;
 import com.sun.source.tree.Tree;
-import com.sun.source.tree.TryTree;
 import com.sun.source.tree.TypeCastTree;
 import com.sun.source.tree.UnaryTree;
 import com.sun.source.tree.VariableTree;
@@ -71,6 +63,10 @@ final class Rules extends TreePathScanner<Void, Void> {
         Tree.Kind.LESS_THAN, Tree.Kind.LESS_THAN_EQUAL, Tree.Kind.GREATER_THAN, Tree.Kind.GREATER_THAN_EQUAL);
     private static final Set<Tree.Kind> COUNTING = EnumSet.of(
         Tree.Kind.POSTFIX_INCREMENT, Tree.Kind.POSTFIX_DECREMENT, Tree.Kind.PREFIX_INCREMENT, Tree.Kind.PREFIX_DECREMENT);
+    /** What never stands in the class, each with its rule. */
+    private static final Map<Tree.Kind, Integer> NEVER = Map.of(
+        Tree.Kind.PACKAGE, 1, Tree.Kind.LAMBDA_EXPRESSION, 2, Tree.Kind.MEMBER_REFERENCE, 2, Tree.Kind.ANNOTATION, 4, Tree.Kind.THROW, 6,
+        Tree.Kind.TRY, 6, Tree.Kind.ASSERT, 6, Tree.Kind.SYNCHRONIZED, 6);
     private static final Set<String> TYPES = Set.of("int", "long", "short", "byte", "char", "boolean", "void", "java.lang.String");
     private static final Set<String> LIBRARY = Set.of(
         "java.lang.String.indexOf(char)",
@@ -142,12 +138,6 @@ final class Rules extends TreePathScanner<Void, Void> {
     }
 
     // ---- the file and its classes
-
-    @Override
-    public Void visitPackage(PackageTree tree, Void v) {
-        tell(1, "a package", tree);
-        return super.visitPackage(tree, v);
-    }
 
     @Override
     public Void visitImport(ImportTree tree, Void v) {
@@ -242,9 +232,6 @@ final class Rules extends TreePathScanner<Void, Void> {
         }
         if (tree.getParameters().size() > MOST_PARAMETERS) {
             tell(11, "more than seven parameters", tree);
-        }
-        if (tree.getModifiers().getAnnotations().size() > 0) {
-            tell(4, "an annotation", tree);
         }
         long first = trees.getSourcePositions().getStartPosition(unit, tree);
         long last = trees.getSourcePositions().getEndPosition(unit, tree);
@@ -517,45 +504,11 @@ final class Rules extends TreePathScanner<Void, Void> {
     // ---- what the class never needs
 
     @Override
-    public Void visitLambdaExpression(LambdaExpressionTree tree, Void v) {
-        tell(2, "a lambda", tree);
-        return super.visitLambdaExpression(tree, v);
-    }
-
-    @Override
-    public Void visitMemberReference(MemberReferenceTree tree, Void v) {
-        tell(2, "a method reference", tree);
-        return super.visitMemberReference(tree, v);
-    }
-
-    @Override
-    public Void visitThrow(ThrowTree tree, Void v) {
-        tell(6, "a throw, though the document names no exception", tree);
-        return super.visitThrow(tree, v);
-    }
-
-    @Override
-    public Void visitTry(TryTree tree, Void v) {
-        tell(6, "a try", tree);
-        return super.visitTry(tree, v);
-    }
-
-    @Override
-    public Void visitCatch(CatchTree tree, Void v) {
-        tell(6, "a catch", tree);
-        return super.visitCatch(tree, v);
-    }
-
-    @Override
-    public Void visitAssert(AssertTree tree, Void v) {
-        tell(6, "an assert", tree);
-        return super.visitAssert(tree, v);
-    }
-
-    @Override
-    public Void visitSynchronized(SynchronizedTree tree, Void v) {
-        tell(6, "a synchronized", tree);
-        return super.visitSynchronized(tree, v);
+    public Void scan(Tree tree, Void v) {
+        if (tree != null && NEVER.containsKey(tree.getKind())) {
+            tell(NEVER.get(tree.getKind()), "a " + tree.getKind(), tree);
+        }
+        return super.scan(tree, v);
     }
 
     @Override
